@@ -146,7 +146,7 @@ public final class Pseudorange {
     Receiver told = receivers[receiver];
     told.leftHill = left;
     told.rightHill = right;
-    return countSeen(told);
+    return Integer.bitCount(setSeen(told, 0));
   }
 
   public int air(int receiver, int iono, boolean isDual)
@@ -226,7 +226,7 @@ public final class Pseudorange {
     gatherMeasured(observing);
     offerCorrections(observing);
     solver.solve();
-    track.record(epoch, solver, alarmOf(observing, true), observing.x, observing.y);
+    track.keepAll(epoch, solver, alarmOf(observing, true), observing.x, observing.y);
     return track.alarm;
   }
 
@@ -379,19 +379,14 @@ public final class Pseudorange {
 
   /** The T of a PHASE. */
   private static int swing(int phase) {
-    int u = Math.floorMod(phase, ROUND);
+    int u = phase % ROUND;
+    if (u < 0) {
+      u += ROUND;
+    }
     if (u <= 12) {
       return u;
     }
     return u <= 36 ? 24 - u : u - ROUND;
-  }
-
-  private static int xOn(int radius, int phase) {
-    return radius * swing(phase) / 12;
-  }
-
-  private static int yOn(int radius, int phase) {
-    return radius * swing(phase + 12) / 12;
   }
 
   // ---- epochs
@@ -413,10 +408,6 @@ public final class Pseudorange {
       }
     }
     return set;
-  }
-
-  private int countSeen(Receiver receiver) {
-    return Integer.bitCount(setSeen(receiver, 0));
   }
 
   private static int firstHeard(Star star, Station station) {
@@ -546,7 +537,7 @@ public final class Pseudorange {
       case 1:
         return receiver.y;
       case 2:
-        return countSeen(receiver);
+        return Integer.bitCount(setSeen(receiver, 0));
       case 13:
         return receiver.track.errorAt(receiver.x, receiver.y);
       default:
@@ -657,11 +648,11 @@ public final class Pseudorange {
     }
 
     private int xIn(int epochs) {
-      return xOn(radius, phase + epochs * spin);
+      return radius * swing(phase + epochs * spin) / 12;
     }
 
     private int yIn(int epochs) {
-      return yOn(radius, phase + epochs * spin);
+      return radius * swing(phase + epochs * spin + 12) / 12;
     }
 
     private void takeMessage(int epoch, int delay) {
@@ -681,11 +672,11 @@ public final class Pseudorange {
     }
 
     private int toldX(int epoch) {
-      return xOn(radius, toldPhase + (epoch - toldEpoch) * spin);
+      return radius * swing(toldPhase + (epoch - toldEpoch) * spin) / 12;
     }
 
     private int toldY(int epoch) {
-      return yOn(radius, toldPhase + (epoch - toldEpoch) * spin);
+      return radius * swing(toldPhase + (epoch - toldEpoch) * spin + 12) / 12;
     }
 
     private int toldClock(int epoch) {
@@ -908,7 +899,7 @@ public final class Pseudorange {
       return hasObservedIn(epoch - 1) && used >= LEAST_TO_SOLVE && rangeOf(x, y, newX, newY) > 4;
     }
 
-    private void record(int epoch, Solver solver, int newAlarm, int trueX, int trueY) {
+    private void keepAll(int epoch, Solver solver, int newAlarm, int trueX, int trueY) {
       observations++;
       latest = epoch;
       used = solver.used;
@@ -918,11 +909,11 @@ public final class Pseudorange {
         alarmEpoch = epoch;
       }
       if (solver.hasSolution()) {
-        keep(solver, trueX, trueY);
+        keepSolution(solver, trueX, trueY);
       }
     }
 
-    private void keep(Solver solver, int trueX, int trueY) {
+    private void keepSolution(Solver solver, int trueX, int trueY) {
       x = solver.x;
       y = solver.y;
       time = solver.time;
@@ -975,6 +966,7 @@ public final class Pseudorange {
     private final int[] starY;
     private final int[] pseudoranges;
     private final int[] weights;
+    private final int[] over;
     private int used;
     private int x;
     private int y;
@@ -991,6 +983,7 @@ public final class Pseudorange {
       starY = new int[MOST_STARS];
       pseudoranges = new int[MOST_STARS];
       weights = new int[MOST_STARS];
+      over = new int[MOST_STARS];
     }
 
     private void clear() {
@@ -1022,18 +1015,15 @@ public final class Pseudorange {
       y = bestY;
       time = bestTime;
       cost = bestCost;
-      if (used >= LEAST_TO_CHECK) {
-        level = 3 + farthestWithOneLess();
+      if (used < LEAST_TO_CHECK) {
+        return;
       }
-    }
-
-    private int farthestWithOneLess() {
       int farthest = 0;
       for (int i = 0; i < used; i++) {
         search(i);
         farthest = Math.max(farthest, rangeOf(x, y, bestX, bestY));
       }
-      return farthest;
+      level = 3 + farthest;
     }
 
     /** The least y and then the least x come first, so that a later place must be better. */
@@ -1041,39 +1031,36 @@ public final class Pseudorange {
       bestCost = Long.MAX_VALUE;
       for (int placeY = 0; placeY <= SIDE; placeY++) {
         for (int placeX = -SIDE; placeX <= SIDE; placeX++) {
-          int placeTime = timeAt(placeX, placeY, leftOut);
-          long placeCost = costAt(placeX, placeY, placeTime, leftOut);
-          if (placeCost < bestCost) {
-            bestX = placeX;
-            bestY = placeY;
-            bestTime = placeTime;
-            bestCost = placeCost;
-          }
+          tryPlace(placeX, placeY, leftOut);
         }
       }
     }
 
-    private int overAt(int placeX, int placeY, int i) {
-      return pseudoranges[i] - rangeOf(placeX, placeY, starX[i], starY[i]);
-    }
-
-    private int timeAt(int placeX, int placeY, int leftOut) {
+    private void tryPlace(int placeX, int placeY, int leftOut) {
       int sum = 0;
       int weight = 0;
       for (int i = 0; i < used; i++) {
+        over[i] = pseudoranges[i] - rangeOf(placeX, placeY, starX[i], starY[i]);
         if (i != leftOut) {
-          sum += weights[i] * overAt(placeX, placeY, i);
+          sum += weights[i] * over[i];
           weight += weights[i];
         }
       }
-      return weight == 0 ? 0 : Math.floorDiv(sum, weight);
+      int placeTime = weight == 0 ? 0 : Math.floorDiv(sum, weight);
+      long placeCost = costBy(placeTime, leftOut);
+      if (placeCost < bestCost) {
+        bestX = placeX;
+        bestY = placeY;
+        bestTime = placeTime;
+        bestCost = placeCost;
+      }
     }
 
-    private long costAt(int placeX, int placeY, int placeTime, int leftOut) {
+    private long costBy(int placeTime, int leftOut) {
       long sum = 0;
       for (int i = 0; i < used; i++) {
         if (i != leftOut) {
-          long off = overAt(placeX, placeY, i) - placeTime;
+          long off = over[i] - placeTime;
           sum += weights[i] * off * off;
         }
       }

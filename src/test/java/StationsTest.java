@@ -96,11 +96,14 @@ public final class StationsTest {
     // by its message at PHASE 15: (90, -30); it is at 12: (120, 0)
     messageIs(sky, 0, 3, 2, 2, 18, 2, 0, 54, 30);
     sky.health(0, false);
-    DUE.is("issues stay", sky.message(0, 0), 3);
+    messageIs(sky, 0, 3, 2, 2, 18, 2, 0, 54, 30);
     sky.pass(33);
     sky.health(0, true);
     DUE.is("a later issue", sky.listen(0, 0), 4);
     messageIs(sky, 0, 4, 48, 45, -6, 0, 1, 4, 0);
+    sky.health(0, false);
+    DUE.is("it holds, healthy or not", sky.message(0, 5), 1);
+    DUE.is("many(5)", sky.many(5), 1);
   }
 
   /** What is told of the drift is cut towards 0 and held, and stays within one epoch. */
