@@ -765,6 +765,7 @@ public final class Pseudorange {
       this.bias = bias;
       leftHill = 5;
       rightHill = 5;
+      isDual = true;
       alertLimit = 6;
       reference = NONE;
       track = new Track();

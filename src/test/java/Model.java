@@ -62,7 +62,7 @@ final class Model {
   private static final class Receiver {
     Point at;
     int number, bias, left = 5, right = 5, iono, alert = 6, spoof, reference = NONE;
-    boolean dual;
+    boolean dual = true;
     final List<Observation> observations = new ArrayList<>();
 
     Observation ago(int n) {
