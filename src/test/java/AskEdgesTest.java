@@ -73,6 +73,16 @@ public final class AskEdgesTest {
     placeOf(due, 200, 36, -200, 0);
   }
 
+  static void p17_asItStandsInThisEpoch(Due due) {
+    Pseudorange sky = new Pseudorange();
+    sky.star(120, 47, 3, 0, 0);
+    due.is("x", sky.ofStar(0, 6), -10);
+    due.is("y", sky.ofStar(0, 7), 110);
+    sky.pass(1);
+    due.is("x one EPOCH on", sky.ofStar(0, 6), 20);
+    due.is("y one EPOCH on", sky.ofStar(0, 7), 100);
+  }
+
   static void p17_healthyIs1OtherwiseIs0(Due due) {
     Pseudorange sky = Skies.above(1);
     due.is("HEALTHY", sky.ofStar(0, 5), 1);

@@ -97,7 +97,58 @@ public final class MeasureEdgesTest {
     notSeen(due, sky, 0, 1);
   }
 
+  static void p19_aStarThatWasFixedAndIsNotSeen(Due due) {
+    Pseudorange sky = Skies.above(1);
+    Skies.observeThrice(sky, 0);
+    seenIs(due, sky, 0, 0, 122, 0, 12, 2, 3, 1, 1, 0);
+    sky.health(0, false);
+    Skies.passAndObserve(sky, 0);
+    notSeen(due, sky, 0, 0);
+  }
+
+  /** RADIUS 60, HILLS 10: y is 10 and falls to 5, or is 5 and rises to 10. */
+  static void p19_seenAsItStandsInThisEpoch(Due due) {
+    Pseudorange sky = new Pseudorange();
+    sky.star(60, 10, 1, 0, 0);
+    sky.star(60, 11, -1, 0, 0);
+    sky.receiver(0, 0, 0);
+    sky.hills(0, 10, 10);
+    sky.observe(0);
+    due.is("it falls", sky.seen(0, 0, KEPT), 1);
+    notSeen(due, sky, 0, 1);
+    Skies.passAndObserve(sky, 0);
+    notSeen(due, sky, 0, 0);
+    due.is("it rises", sky.seen(0, 1, KEPT), 1);
+  }
+
   // ---- the TRUE count, the CODE and the WAVE
+
+  /** (-10, 110) and then (0, 120), both with SPOOFED 30; NOISE -2 and 0. */
+  static void p19_rangeAndSideOfThisEpoch(Due due) {
+    Pseudorange sky = new Pseudorange();
+    sky.star(120, 47, 1, 0, 0);
+    sky.receiver(0, 0, 0);
+    sky.spoof(0, 30);
+    sky.observe(0);
+    due.is("on the left", sky.seen(0, 0, CODE), 110 + 30 - 2);
+    Skies.passAndObserve(sky, 0);
+    due.is("not on the left", sky.seen(0, 0, CODE), 120 - 30);
+  }
+
+  /** (60, 60) and then (70, 50), or (70, 50) and then (60, 60); IONO 9, NOISE -2 and 0. */
+  static void p19_delayOfThisEpoch(Due due) {
+    int[][] rows = {{6, 1, 60 + 9 - 2, 70 + 18}, {7, -1, 70 + 18 - 2, 60 + 9}};
+    for (int[] row : rows) {
+      Pseudorange sky = new Pseudorange();
+      sky.star(120, row[0], row[1], 0, 0);
+      sky.receiver(0, 0, 0);
+      sky.air(0, 9, false);
+      sky.observe(0);
+      due.is("CODE", sky.seen(0, 0, CODE), row[2]);
+      Skies.passAndObserve(sky, 0);
+      due.is("CODE one EPOCH on", sky.seen(0, 0, CODE), row[3]);
+    }
+  }
 
   /** From x 0 and -1 a STAR at x 0 is not on the left, from 1 it is; NOISE -2. */
   static void p19_spoofedMoreOnlyOnTheLeft(Due due) {
@@ -603,5 +654,65 @@ public final class MeasureEdgesTest {
     sky.observe(0);
     sky.observe(1);
     correctionsAre(due, sky, 1, 6, -2, -2, -2);
+  }
+
+  /** In EPOCH 12 all are USED and corrected, in EPOCH 13 only STAR 0 is. */
+  static void p19_anOldCorrectionDoesNotStay(Due due) {
+    Pseudorange sky = withReference(4);
+    sky.pass(1);
+    sky.listen(0, 0);
+    sky.pass(11);
+    sky.observe(0);
+    sky.observe(1);
+    // in EPOCH 12: NOISE 2, 0, -2, 1, whose mean is 1 by 4, rounded down 0
+    correctionsAre(due, sky, 1, 2, 0, -2, 1);
+    Skies.passAndObserve(sky, 1);
+    due.is("not USED", sky.seen(1, 3, USED), 0);
+    correctionsAre(due, sky, 1, 2, 0, 0, 0);
+    sky.refer(1, -1);
+    Skies.passAndObserve(sky, 1);
+    correctionsAre(due, sky, 1, 0, 0, 0, 0);
+  }
+
+  /** What the MESSAGES tell is taken away: OFFSETS 0, 7, -7, 90 and the NOISE -2, 1, -1, 2. */
+  static void p19_correctionLessTheOffsetByTheMessage(Due due) {
+    Pseudorange sky = new Pseudorange();
+    int[] offsets = {0, 7, -7, 90};
+    sky.station(0, 0);
+    sky.receiver(0, 0, 0);
+    sky.receiver(0, 0, 0);
+    sky.refer(1, 0);
+    for (int star = 0; star < offsets.length; star++) {
+      sky.star(120, 0, 0, offsets[star], 0);
+      sky.listen(0, star);
+    }
+    sky.observe(0);
+    sky.observe(1);
+    correctionsAre(due, sky, 1, -2, 1, -1, 2);
+  }
+
+  /**
+   * The clocks of STARS 1, 2 and 3 are 30, -60 and 30 off, which is 0 in the mean; whoever observes
+   * has no NOISE. Corrected by that the SOLUTION is where RECEIVER 1 is, with its BIAS as TIME.
+   */
+  static void p19_pseudorangeIsLessTheCorrection(Due due) {
+    Pseudorange sky = Skies.heardCross(3, 5, 0);
+    sky.receiver(-4, 2, 9);
+    sky.alert(1, 24);
+    sky.refer(1, 0);
+    int[] off = {0, 30, -60, 30, 0};
+    Skies.jump(sky, off);
+    Skies.quiet(sky, 0, 0, 1, 2, 3, 4);
+    sky.observe(0);
+    for (int star = 0; star < 5; star++) {
+      sky.jump(star, Skies.noise(0, star, 0), 0);
+    }
+    Skies.quiet(sky, 1, 0, 1, 2, 3, 4);
+    due.is("observe", sky.observe(1), 0);
+    correctionsAre(due, sky, 1, off);
+    int[] solution = {-4, 2, 9, 0};
+    for (int i = 0; i < solution.length; i++) {
+      due.is("ofReceiver(1, " + (i + 5) + ")", sky.ofReceiver(1, i + 5), solution[i]);
+    }
   }
 }

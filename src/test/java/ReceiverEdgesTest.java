@@ -210,6 +210,20 @@ public final class ReceiverEdgesTest {
     due.is("5 from 6 is", seenFrom(60, 1, 6, 0, 0, 60), 1);
   }
 
+  /** RADIUS 60, to the right and to the left: y is 10 and falls to 5, or is 5 and rises to 10. */
+  static void p10_asTheyStandInThisEpoch(Due due) {
+    int[][] rows = {{10, 1, 2, 0}, {11, -1, 0, 2}};
+    for (int[] row : rows) {
+      Pseudorange sky = new Pseudorange();
+      sky.star(60, row[0], row[1], 0, 0);
+      sky.star(60, 48 - row[0], -row[1], 0, 0);
+      sky.receiver(0, 0, 0);
+      due.is("now", sky.hills(0, 10, 10), row[2]);
+      sky.pass(1);
+      due.is("one EPOCH on", sky.hills(0, 10, 10), row[3]);
+    }
+  }
+
   static void p10_aRefusedHillChangesNeither(Due due) {
     Pseudorange sky = new Pseudorange();
     sky.star(120, 6, 0, 0, 0);

@@ -322,6 +322,24 @@ public final class SolveEdgesTest {
     due.is("USED then", sky.ofReceiver(0, USED), 8);
   }
 
+  /** RADIUS 60: (50, 10) and then (55, 5), behind HILLS of 10. */
+  static void p20_itsStarsAsTheyStandInThisEpoch(Due due) {
+    Pseudorange sky = new Pseudorange();
+    sky.star(60, 10, 1, 0, 0);
+    sky.receiver(0, 0, 0);
+    sky.hills(0, 10, 10);
+    due.is("now", sky.ofReceiver(0, 2), 1);
+    sky.pass(1);
+    due.is("one EPOCH on", sky.ofReceiver(0, 2), 0);
+    Pseudorange rising = new Pseudorange();
+    rising.star(60, 11, -1, 0, 0);
+    rising.receiver(0, 0, 0);
+    rising.hills(0, 10, 10);
+    due.is("now", rising.ofReceiver(0, 2), 0);
+    rising.pass(1);
+    due.is("one EPOCH on", rising.ofReceiver(0, 2), 1);
+  }
+
   static void p20_latestInEpoch0(Due due) {
     Pseudorange sky = Skies.above(1);
     due.is("EPOCH", sky.ofReceiver(0, LATEST), -1);
@@ -435,6 +453,58 @@ public final class SolveEdgesTest {
     timeOf(due, 3, 1, 4 * (4 + 1 + 1));
   }
 
+  /** STARS at (60, 60) have the weight 1; from (-12, 0) they are 12 farther than from (0, 0). */
+  private static void lightTimeOf(Due due, int jump, int time) {
+    Pseudorange sky = new Pseudorange();
+    sky.station(0, 0);
+    sky.receiver(0, 0, 0);
+    for (int star = 0; star < 3; star++) {
+      sky.star(120, 6, 0, 0, 0);
+      sky.listen(0, star);
+      Skies.quiet(sky, 0, star);
+    }
+    sky.jump(0, jump, 0);
+    sky.observe(0);
+    due.is("TIME of " + jump + " by 3", sky.ofReceiver(0, TIME), time - 12);
+  }
+
+  static void p20_timeIsRoundedDownByOne(Due due) {
+    int[] times = {-2, -1, -1, -1, 0, 0, 0, 1};
+    for (int jump = -4; jump <= 3; jump++) {
+      lightTimeOf(due, jump, times[jump + 4]);
+    }
+    // with the 12 that it is less: just below 0, and 0
+    lightTimeOf(due, 35, 11);
+    lightTimeOf(due, 36, 12);
+    lightTimeOf(due, 37, 12);
+  }
+
+  /** NOISE -2, 1, -1, 2; then 0, -2, 1, -1 with TIME -1; then the WAVES tell, if there is a third. */
+  static void p20_theMeasureIsTheCodeUntilItIsFixed(Due due) {
+    Pseudorange sky = Skies.above(4);
+    sky.observe(0);
+    solutionIs(due, sky, -12, 0, 0, 2 * (4 + 1 + 1 + 4));
+    Skies.passAndObserve(sky, 0);
+    solutionIs(due, sky, -12, 0, -1, 2 * (1 + 1 + 4 + 0));
+    Skies.passAndObserve(sky, 0);
+    solutionIs(due, sky, -12, 0, 0, 0);
+  }
+
+  /** IONO 9 and a NOISE of -1 to 2 (STARS 1, 2, 6 and 7 in EPOCHS 3 to 5) are one wave too much. */
+  static void p20_theMeasureOfAWrongCount(Due due) {
+    Pseudorange sky = Skies.above(8);
+    sky.health(0, false);
+    sky.health(3, false);
+    sky.health(4, false);
+    sky.health(5, false);
+    sky.air(0, 9, false);
+    sky.pass(3);
+    Skies.observeThrice(sky, 0);
+    due.is("COUNT", sky.seen(0, 1, 2), 13);
+    due.is("FIXED", sky.seen(0, 1, 5), 1);
+    solutionIs(due, sky, -12, 0, 10, 0);
+  }
+
   /** Four STARS at the same place, whose squares of NOISE are 4, 1, 1 and 4, with a mean of 0. */
   private static int costOf4At(int phase, int push) {
     Pseudorange sky = new Pseudorange();
@@ -532,6 +602,23 @@ public final class SolveEdgesTest {
       due.is("LEVEL", sky.ofReceiver(0, LEVEL), place[2]);
       Pseudorange four = fixedCross(place[0], place[1], 0, 1, 2, 3);
       due.is("LEVEL of 4", four.ofReceiver(0, LEVEL), place[2]);
+    }
+  }
+
+  /** Only without the STAR to the right the SOLUTION of (-10, 5) goes down all the way. */
+  static void p20_levelAlsoByTheFirstAndTheLastStar(Due due) {
+    int[][] orders = {{9, 39, 0, 3, 45}, {0, 39, 3, 45, 9}};
+    for (int[] phases : orders) {
+      Pseudorange sky = new Pseudorange();
+      sky.station(50, 0);
+      sky.station(-50, 0);
+      sky.receiver(-10, 5, 0);
+      for (int star = 0; star < 5; star++) {
+        sky.star(120, phases[star], 0, 0, 0);
+        sky.listen(phases[star] < 24 ? 0 : 1, star);
+      }
+      Skies.observeThrice(sky, 0);
+      due.is("LEVEL", sky.ofReceiver(0, LEVEL), 8);
     }
   }
 

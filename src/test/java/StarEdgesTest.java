@@ -401,6 +401,22 @@ public final class StarEdgesTest {
     due.fails(far, STATE, "from 29", () -> far.listen(0, 0));
   }
 
+  /** RADIUS 60: (55, 5) is not heard from 50, (50, 10) is. */
+  static void p07_asItStandsInThisEpoch(Due due) {
+    Pseudorange rising = new Pseudorange();
+    rising.star(60, 11, -1, 0, 0);
+    rising.station(50, 0);
+    due.fails(rising, STATE, "one EPOCH too early", () -> rising.listen(0, 0));
+    rising.pass(1);
+    due.is("now", rising.listen(0, 0), 1);
+    Pseudorange falling = new Pseudorange();
+    falling.star(60, 10, 1, 0, 0);
+    falling.station(50, 0);
+    due.is("just yet", falling.listen(0, 0), 1);
+    falling.pass(1);
+    due.fails(falling, STATE, "one EPOCH too late", () -> falling.listen(0, 0));
+  }
+
   static void p07_issueIs1More(Due due) {
     Pseudorange sky = Skies.heardFrom(0, 60, 0);
     for (int issue = 1; issue <= 5; issue++) {

@@ -28,6 +28,26 @@ public final class WouldBeEdgesTest {
     return sky;
   }
 
+  /**
+   * RADIUS 60, HILLS of 10: three STARS above, and a fourth with this SPIN that was heard at
+   * (50, 10) and was pushed by so much: at 0 it is just seen, at 1 it stands at (55, 5).
+   */
+  private static Pseudorange fourthAtTheHill(int spin, int by) {
+    Pseudorange sky = new Pseudorange();
+    sky.station(50, 0);
+    sky.receiver(0, 0, 0);
+    sky.hills(0, 10, 10);
+    sky.alert(0, 24);
+    for (int star = 0; star < 3; star++) {
+      sky.star(60, 0, 0, 0, 0);
+      sky.listen(0, star);
+    }
+    sky.star(60, 10, spin, 0, 0);
+    sky.listen(0, 3);
+    sky.push(3, by);
+    return sky;
+  }
+
   // ---- promise 23
 
   static void p23_numbersAre0To2(Due due) {
@@ -244,6 +264,17 @@ public final class WouldBeEdgesTest {
     due.is("without 0", quietCross(3, 5).without(0, 0), 1505);
   }
 
+  static void p25_asTheyStandInThisEpoch(Due due) {
+    Pseudorange falling = fourthAtTheHill(1, 0);
+    due.is("three are left", falling.without(0, 0) == -1, false);
+    falling.pass(1);
+    due.is("two are left", falling.without(0, 0), -1);
+    Pseudorange rising = fourthAtTheHill(-1, 1);
+    due.is("two are left", rising.without(0, 0), -1);
+    rising.pass(1);
+    due.is("three are left", rising.without(0, 0) == -1, false);
+  }
+
   static void p25_alsoIfItDidObserveInThisEpoch(Due due) {
     Pseudorange sky = quietCross(3, 5);
     due.is("ahead of it", sky.without(0, 1), 2000);
@@ -278,6 +309,17 @@ public final class WouldBeEdgesTest {
     for (int stars = 0; stars <= 8; stars++) {
       due.is("of " + stars, Skies.above(stars).wouldAlarm(0), alarm[stars]);
     }
+  }
+
+  static void p26_asTheyStandInThisEpoch(Due due) {
+    Pseudorange falling = fourthAtTheHill(1, 0);
+    due.is("of 4", falling.wouldAlarm(0) == 1, false);
+    falling.pass(1);
+    due.is("of 3", falling.wouldAlarm(0), 1);
+    Pseudorange rising = fourthAtTheHill(-1, 1);
+    due.is("of 3", rising.wouldAlarm(0), 1);
+    rising.pass(1);
+    due.is("of 4", rising.wouldAlarm(0) == 1, false);
   }
 
   static void p26_messagesThatHoldFor12(Due due) {
@@ -459,6 +501,31 @@ public final class WouldBeEdgesTest {
     sky.pass(20);
     sky.observe(0);
     due.is("digest", sky.digest(), asDue(sky));
+  }
+
+  /** RADIUS 60: heard in 16, 33 and never; behind HILLS of 10 seen from the sixth EPOCH on. */
+  static void p27_whatWillBe(Due due) {
+    Pseudorange sky = new Pseudorange();
+    sky.star(120, 24, 1, 0, 0);
+    sky.star(60, 11, 1, 0, 0);
+    sky.star(60, 24, 0, 0, 0);
+    sky.star(60, 16, -1, 0, 0);
+    sky.star(60, 5, 1, 0, 0);
+    sky.station(0, 0);
+    sky.station(50, 0);
+    sky.receiver(0, 0, 0);
+    sky.hills(0, 10, 10);
+    due.is("in 5", sky.wouldSee(0, 5), 16);
+    due.is("in 6", sky.wouldSee(0, 6), 8);
+    due.is("in 7", sky.wouldSee(0, 7), 8);
+    due.is("digest", sky.digest(), asDue(sky));
+    Pseudorange seventh = new Pseudorange();
+    seventh.star(60, 17, -1, 0, 0);
+    seventh.receiver(0, 0, 0);
+    seventh.hills(0, 10, 10);
+    due.is("in 6", seventh.wouldSee(0, 6), 0);
+    due.is("in 7", seventh.wouldSee(0, 7), 1);
+    due.is("digest", seventh.digest(), asDue(seventh));
   }
 
   static void p27_itChangesNothing(Due due) {
