@@ -1029,7 +1029,7 @@ public final class Pseudorange {
 
     /** The least y and then the least x come first, so that a later place must be better. */
     private void search(int leftOut) {
-      bestCost = Long.MAX_VALUE;
+      bestCost = NONE;
       for (int placeY = 0; placeY <= SIDE; placeY++) {
         for (int placeX = -SIDE; placeX <= SIDE; placeX++) {
           tryPlace(placeX, placeY, leftOut);
@@ -1049,7 +1049,7 @@ public final class Pseudorange {
       }
       int placeTime = weight == 0 ? 0 : Math.floorDiv(sum, weight);
       long placeCost = costBy(placeTime, leftOut);
-      if (placeCost < bestCost) {
+      if (bestCost == NONE || placeCost < bestCost) {
         bestX = placeX;
         bestY = placeY;
         bestTime = placeTime;

@@ -5,18 +5,29 @@ import java.lang.reflect.Modifier;
 import java.util.Arrays;
 import java.util.Set;
 import java.util.TreeSet;
+import java.util.stream.Collectors;
 
-/** The public face is the document's, and nothing else can be seen from outside. */
+/** The public face is the document's, with its exceptions; nothing else can be seen from outside. */
 public final class FaceTest {
+  private static final String INDEX = " throws IndexOutOfBoundsException";
+  private static final String ARGUMENT = " throws IllegalArgumentException";
+  private static final String INDEX_ARGUMENT = INDEX + ", IllegalArgumentException";
+  private static final String INDEX_STATE = INDEX + ", IllegalStateException";
+  private static final String ARGUMENT_STATE = ARGUMENT + ", IllegalStateException";
   private static final String[] FACE = {
-    "int star(int, int, int, int, int)", "int push(int, int)", "int jump(int, int, int)",
-    "boolean health(int, boolean)", "int station(int, int)", "int listen(int, int)",
-    "int receiver(int, int, int)", "int go(int, int, int)", "int hills(int, int, int)",
-    "int air(int, int, boolean)", "int alert(int, int)", "int spoof(int, int)",
-    "int refer(int, int)", "int pass(int)", "int observe(int)", "int ofStar(int, int)",
-    "int message(int, int)", "int seen(int, int, int)", "int ofReceiver(int, int)",
-    "int many(int)", "double meanError(int)", "int wouldSee(int, int)", "int heardIn(int, int)",
-    "int without(int, int)", "int wouldAlarm(int)", "long digest()",
+    "int star(int, int, int, int, int)" + ARGUMENT_STATE, "int push(int, int)" + INDEX_ARGUMENT,
+    "int jump(int, int, int)" + INDEX_ARGUMENT, "boolean health(int, boolean)" + INDEX,
+    "int station(int, int)" + ARGUMENT_STATE, "int listen(int, int)" + INDEX_STATE,
+    "int receiver(int, int, int)" + ARGUMENT_STATE, "int go(int, int, int)" + INDEX_ARGUMENT,
+    "int hills(int, int, int)" + INDEX_ARGUMENT, "int air(int, int, boolean)" + INDEX_ARGUMENT,
+    "int alert(int, int)" + INDEX_ARGUMENT, "int spoof(int, int)" + INDEX_ARGUMENT,
+    "int refer(int, int)" + INDEX_ARGUMENT, "int pass(int)" + ARGUMENT,
+    "int observe(int)" + INDEX_STATE, "int ofStar(int, int)" + INDEX_ARGUMENT,
+    "int message(int, int)" + INDEX_ARGUMENT, "int seen(int, int, int)" + INDEX_ARGUMENT,
+    "int ofReceiver(int, int)" + INDEX_ARGUMENT, "int many(int)" + ARGUMENT,
+    "double meanError(int)" + INDEX, "int wouldSee(int, int)" + INDEX_ARGUMENT,
+    "int heardIn(int, int)" + INDEX, "int without(int, int)" + INDEX,
+    "int wouldAlarm(int)" + INDEX, "long digest()",
   };
 
   public static void main(String[] args) {
@@ -45,6 +56,7 @@ public final class FaceTest {
         due.is(method.getName() + " bears a public name", names.contains(method.getName()), false);
       } else {
         due.is(sign(method) + " is of the face", want.remove(sign(method)), true);
+        due.is(sign(method) + " is public", method.getModifiers(), Modifier.PUBLIC);
       }
     }
     due.is("missing: " + want, want.size(), 0);
@@ -56,13 +68,12 @@ public final class FaceTest {
   }
 
   private static String sign(Method method) {
-    StringBuilder text = new StringBuilder();
-    text.append(method.getReturnType().getSimpleName()).append(' ').append(method.getName()).append('(');
-    String between = "";
-    for (Class<?> parameter : method.getParameterTypes()) {
-      text.append(between).append(parameter.getSimpleName());
-      between = ", ";
-    }
-    return text.append(')').toString();
+    return method.getReturnType().getSimpleName() + " " + method.getName()
+        + "(" + names(method.getParameterTypes()) + ")"
+        + (method.getExceptionTypes().length == 0 ? "" : " throws " + names(method.getExceptionTypes()));
+  }
+
+  private static String names(Class<?>[] types) {
+    return Arrays.stream(types).map(Class::getSimpleName).collect(Collectors.joining(", "));
   }
 }
